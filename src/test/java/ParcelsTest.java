@@ -84,10 +84,13 @@ public final class ParcelsTest {
         g.addParcel(9, 0, 5, 5);
         g.turn();
         CHECKS.due("28 full", g.loadOf(0), 5);
+        CHECKS.due("52 full", g.meanLoad(), 1.25f);
         g.order(0, 0);
         g.turn();
         CHECKS.due("11 delivers all", g.isDelivered(0) && g.isDelivered(1), true);
         CHECKS.due("11 then picks up", g.courierOf(2), 0);
+        CHECKS.due("52 still full", g.meanLoad(), 1.25f);
+        CHECKS.due("6 just as much", g.setCapacity(5), 5);
         CHECKS.due("38 together", g.pointsOf(0), 9);
         CHECKS.due("39 together", g.pointsByParcels(0), 9);
         g.place(0, 0);
@@ -116,6 +119,12 @@ public final class ParcelsTest {
         CHECKS.due("39 player 1", g.pointsByParcels(1), 7);
         CHECKS.due("44 not all", g.whyOver(), 0);
         CHECKS.due("53 half", g.deliveredShare(), 0.5);
+        for (int c = 0; c < 4; c++) {
+            CHECKS.due("36 delivered by", g.courierOf(2 * c), c);
+            CHECKS.due("36 carried by", g.courierOf(2 * c + 1), c);
+        }
+        CHECKS.due("52 delivered ones weigh no more", g.meanLoad(), 2.0f);
+        CHECKS.due("6 delivered ones weigh no more", g.setCapacity(2), 5);
     }
 
     private static void positionsTellDeliverers() {

@@ -13,6 +13,9 @@ public final class UndoTest {
         snapshot();
         snapshotAndNotes();
         undoOfRestore();
+        otherStreetsAndParcels();
+        undoOfTurns();
+        sixtyTurnsWithoutDrop();
         CHECKS.end("UndoTest");
     }
 
@@ -156,6 +159,93 @@ public final class UndoTest {
         CHECKS.due("44 over", g.whyOver(), 2);
         g.restore();
         CHECKS.due("20 not over", g.whyOver(), 0);
+    }
+
+    /** What is built anew behind an undo must not stay when the old is restored. */
+    private static void otherStreetsAndParcels() {
+        CourierClash g = Checks.game(new int[] {0, 1, 1}, new int[] {2, 3});
+        g.addParcel(4, 5, 1, 2);
+        g.setCapacity(1);
+        g.keep();
+        for (int i = 0; i < 4; i++) {
+            g.undo();
+        }
+        g.addStreet(7, 6, false);
+        g.addStreet(9, 8, true);
+        g.addParcel(0, 9, 5, 9);
+        g.turn();
+        g.restore();
+        CHECKS.due("20 from", g.fromOf(0), 0);
+        CHECKS.due("20 to", g.toOf(1), 3);
+        CHECKS.due("20 parcel", g.placeOf(0), 4);
+        CHECKS.due("20 not carried", g.loadOf(0), 0);
+        g.toggleVan(0);
+        CHECKS.due("20 narrow", g.whyNoOrder(0, 0), 4);
+        g.toggleVan(2);
+        CHECKS.due("20 wide", g.whyNoOrder(2, 1), 0);
+        g.place(3, 4);
+        g.turn();
+        CHECKS.due("20 weight", g.loadOf(3), 1);
+        g.place(3, 5);
+        g.turn();
+        CHECKS.due("20 target and value", g.pointsOf(1), 2);
+    }
+
+    private static void undoOfTurns() {
+        CourierClash g = Checks.game(new int[] {0, 1}, new int[] {2, 9});
+        g.addParcel(2, 9, 4, 6);
+        g.turn();
+        g.order(0, 0);
+        g.order(2, 1);
+        g.turn();
+        CHECKS.due("41 failed", g.failedMoves(), 1);
+        CHECKS.due("38 points", g.pointsOf(1), 6);
+        g.undo();
+        CHECKS.due("18 failed", g.failedMoves(), 0);
+        CHECKS.due("18 points", g.pointsOf(1), 0);
+        CHECKS.due("18 points by parcels", g.pointsByParcels(1), 0);
+        CHECKS.due("18 load", g.loadOf(2), 4);
+        CHECKS.due("18 outcome", g.outcomeOf(0), 1);
+        CHECKS.due("18 moves", g.movesOf(2), 0);
+        CHECKS.due("18 street of an order", g.orderOf(2), 1);
+        g.turn();
+        CHECKS.due("18 points once", g.pointsOf(1), 6);
+        g.undo();
+        g.undo();
+        g.undo();
+        g.undo();
+        CHECKS.due("18 waits again", g.isWaiting(0), true);
+    }
+
+    /** As many notes as there can be: 61, of which no position comes thrice. */
+    private static void sixtyTurnsWithoutDrop() {
+        CourierClash g = Checks.game();
+        for (int j = 0; j < 10; j++) {
+            g.addStreet(j, (j + 1) % 10, false);
+        }
+        g.setLimit(60);
+        // the couriers go round one behind the other; each tenth turn the first one alone goes on
+        for (int turn = 0; turn < 60; turn++) {
+            for (int c = 3; c >= (turn % 10 == 9 ? 3 : 0); c--) {
+                g.order(c, g.junctionOf(c));
+            }
+            g.turn();
+        }
+        CHECKS.due("44 sixty turns", g.whyOver(), 3);
+        CHECKS.due("43 positions", g.positionsNoted(), 61);
+        CHECKS.due("42 now", g.timesNoted(), 1);
+        g.keep();
+        g.undo();
+        CHECKS.due("43 one less", g.positionsNoted(), 60);
+        for (int c = 0; c < 4; c++) {
+            g.takeBack(c);
+        }
+        g.turn();
+        CHECKS.due("43 one twice", g.positionsNoted(), 60);
+        CHECKS.due("42 twice", g.timesNoted(), 2);
+        g.restore();
+        CHECKS.due("43 all again", g.positionsNoted(), 61);
+        CHECKS.due("42 all again", g.timesNoted(), 1);
     }
 
     private static void undoOfRestore() {
