@@ -1208,7 +1208,7 @@ public final class CourierClash {
         private boolean failsInRound() {
             boolean fails = false;
             for (int c = 0; c < COURIERS; c++) {
-                reasonAfterRound[c] = reason[c] == MOVES ? whyFails(c) : reason[c];
+                reasonAfterRound[c] = reason[c] == MOVES ? whyFails(c, begin[c], end[c], load[c]) : reason[c];
             }
             for (int c = 0; c < COURIERS; c++) {
                 fails = fails || reasonAfterRound[c] != reason[c];
@@ -1217,10 +1217,7 @@ public final class CourierClash {
             return fails;
         }
 
-        private int whyFails(int courier) {
-            if (!isCourier(courier)) {
-                return NO_ORDER;
-            }
+        private int whyFails(int courier, int itsBegin, int itsEnd, int itsLoad) {
             boolean exchange = false;
             boolean heavier = false;
             boolean asHeavy = false;
@@ -1230,12 +1227,12 @@ public final class CourierClash {
                     continue;
                 }
                 if (reason[other] != MOVES) {
-                    stays = stays || begin[other] == end[courier];
-                } else if (end[other] == end[courier]) {
-                    heavier = heavier || load[other] > load[courier];
-                    asHeavy = asHeavy || load[other] == load[courier];
+                    stays = stays || begin[other] == itsEnd;
+                } else if (end[other] == itsEnd) {
+                    heavier = heavier || load[other] > itsLoad;
+                    asHeavy = asHeavy || load[other] == itsLoad;
                 } else {
-                    exchange = exchange || end[other] == begin[courier] && begin[other] == end[courier];
+                    exchange = exchange || end[other] == itsBegin && begin[other] == itsEnd;
                 }
             }
             if (exchange) {
