@@ -98,6 +98,7 @@ public final class ParcelsTest {
         g.place(1, 9);
         g.turn();
         CHECKS.due("11 delivers where it stays", g.isDelivered(2), true);
+        CHECKS.due("6 what is delivered weighs nothing", g.setCapacity(1), 5);
     }
 
     private static void deliveryGoesByCourier() {
