@@ -14,6 +14,11 @@ final class Checks {
         }
     }
 
+    /** The call answers this, whether it throws or not. */
+    void answered(String what, Supplier<Object> call, Object want) {
+        due(what, answer(call), want);
+    }
+
     /** The call throws exactly this exception, and changes nothing. */
     void refused(String what, CourierClash game, Class<? extends RuntimeException> want, Supplier<Object> call) {
         long before = game.digest();
@@ -37,6 +42,43 @@ final class Checks {
             game.addStreet(street[0], street[1], street.length > 2);
         }
         return game;
+    }
+
+    /** A new game with streets as a text: "01" leads from the junction 0 to 1, and "12n" is narrow. */
+    static CourierClash town(String streets) {
+        CourierClash game = new CourierClash();
+        for (String street : streets.split(" ")) {
+            if (!street.isEmpty()) {
+                game.addStreet(street.charAt(0) - '0', street.charAt(1) - '0', street.endsWith("n"));
+            }
+        }
+        return game;
+    }
+
+    /** A game with as many streets as there can be; every other one is narrow. */
+    static CourierClash fullTown() {
+        CourierClash game = new CourierClash();
+        for (int s = 0; s < 24; s++) {
+            game.addStreet(fullTownFrom(s), fullTownTo(s), s % 2 == 1);
+        }
+        return game;
+    }
+
+    static int fullTownFrom(int street) {
+        return 9 - street / 9;
+    }
+
+    static int fullTownTo(int street) {
+        return street % 9 < fullTownFrom(street) ? street % 9 : street % 9 + 1;
+    }
+
+    /** Orders for the first couriers, in their order; -1 stands for none. */
+    static void orders(CourierClash game, int... streets) {
+        for (int c = 0; c < streets.length; c++) {
+            if (streets[c] >= 0) {
+                game.order(c, streets[c]);
+            }
+        }
     }
 
     static void type(CourierClash game, String text) {
