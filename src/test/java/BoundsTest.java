@@ -202,6 +202,11 @@ public final class BoundsTest {
             g.turn();
             CHECKS.due("6 nothing carried any more", g.setCapacity(1), 2);
         }
+        for (int j = 0; j <= 9; j++) {
+            CourierClash waiting = Checks.town("");
+            waiting.addParcel(j, (j + 1) % 10, 5, 1);
+            CHECKS.due("6 what waits is no load", waiting.setCapacity(1), 5);
+        }
     }
 
     private static void returnsOfSettings() {
