@@ -235,7 +235,7 @@ public final class CourierClash {
         return savedCount;
     }
 
-    // ---- looks at streets and couriers
+    // ---- looks at streets and couriers; nothing is changed
 
     public int streets() {
         return now.streets.count;

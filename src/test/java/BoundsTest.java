@@ -26,6 +26,7 @@ public final class BoundsTest {
         meanLoad();
         deliveredShare();
         digestOfFullAndEmpty();
+        fiveHundredTwelveCalls();
         CHECKS.end("BoundsTest");
     }
 
@@ -385,5 +386,40 @@ public final class BoundsTest {
         town.toggleStreet(23);
         again.toggleStreet(22);
         CHECKS.due("54 not alike", town.digest() == again.digest(), false);
+    }
+
+    /** "An object is used for at most 512 calls after it has been made": up to the last of them all is as due. */
+    private static void fiveHundredTwelveCalls() {
+        CourierClash turned = new CourierClash();
+        for (int call = 1; call < 512; call += 2) {
+            CHECKS.due("11 nobody", turned.turn(), 0);
+            CHECKS.due("18 none left", turned.undo(), 0);
+        }
+        CHECKS.due("40 all undone", turned.turnsPassed(), 0);
+        CourierClash restored = new CourierClash();
+        CHECKS.due("19 no turns", restored.keep(), 0);
+        for (int call = 2; call < 511; call += 2) {
+            CHECKS.due("11 nobody", restored.turn(), 0);
+            CHECKS.due("20 the turns of then", restored.restore(), 0);
+        }
+        CHECKS.due("42 noted once, though so many turns were made", restored.timesNoted(), 1);
+        CourierClash typed = new CourierClash();
+        for (int call = 1; call < 512; call++) {
+            CHECKS.answered("12 typed", () -> typed.append('r'), call <= 60 ? (Object) call : STATE.getSimpleName());
+        }
+        CHECKS.due("13 sixty", typed.clearBuffer(), 60);
+        CourierClash toggled = new CourierClash();
+        toggled.addStreet(0, 9, false);
+        for (int call = 2; call < 512; call++) {
+            CHECKS.due("3 open or closed", toggled.toggleStreet(0), call % 2 == 1);
+        }
+        CHECKS.due("21 five", toggled.savedStates(), 5);
+        CourierClash placed = new CourierClash();
+        placed.setLimit(60);
+        for (int call = 2; call < 512; call += 2) {
+            CHECKS.due("4 from where", placed.place(3, call % 4 == 2 ? 9 : 3), call % 4 == 2 ? 3 : 9);
+            CHECKS.answered("11 sixty turns", placed::turn, call <= 120 ? (Object) 0 : STATE.getSimpleName());
+        }
+        CHECKS.due("40 sixty", placed.turnsPassed(), 60);
     }
 }

@@ -1,4 +1,6 @@
 import java.io.IOException;
+import java.io.PrintWriter;
+import java.io.StringWriter;
 import java.lang.management.ManagementFactory;
 import java.lang.reflect.Constructor;
 import java.lang.reflect.Executable;
@@ -10,9 +12,11 @@ import java.nio.file.Files;
 import java.nio.file.Path;
 import java.util.ArrayList;
 import java.util.List;
+import java.util.TreeMap;
 import java.util.TreeSet;
 import java.util.regex.Matcher;
 import java.util.regex.Pattern;
+import java.util.spi.ToolProvider;
 
 /** The face as the document tells it, and those rules of LANGUAGE.md that can be looked for. */
 public final class LanguageTest {
@@ -22,11 +26,13 @@ public final class LanguageTest {
 
     public static void main(String[] args) throws IOException {
         faceAsInTheDocument();
+        groupsAsInTheDocument();
         nothingElseCanBeSeen();
         noPrivateNameOfThePublic();
         staticFieldsAreConstants();
         sizes();
         source();
+        callsNoneOfWhichIsARecursion();
         callsMakeNoObjects();
         CHECKS.end("LanguageTest");
     }
@@ -54,6 +60,31 @@ public final class LanguageTest {
         CHECKS.due("rule 1, the face", got, want);
         CHECKS.due("rule 1, 54 promises", got.size(), 54);
         CHECKS.due("rule 1, final", Modifier.toString(CourierClash.class.getModifiers()), "public final");
+    }
+
+    /** "Ahead of the calls .. the interface says: ---- ..": the same comments, with the same calls behind them. */
+    private static void groupsAsInTheDocument() throws IOException {
+        List<String> want = new ArrayList<>();
+        Matcher group = Pattern.compile("Ahead of the calls (.*) the interface says: (----.*)\\.\n")
+                .matcher(Files.readString(DOCUMENT));
+        while (group.find()) {
+            want.add(group.group(2) + " " + group.group(1).replace("`", "").replace(",", ""));
+        }
+        CHECKS.due("groups are told", want.isEmpty(), false);
+        List<String> got = new ArrayList<>();
+        Matcher line = Pattern.compile("// (----.*)|\\bpublic \\w+ (\\w+)\\(").matcher(Files.readString(SOURCE));
+        while (line.find()) {
+            int latest = got.size() - 1;
+            if (line.group(1) != null) {
+                got.add(line.group(1));
+            } else if (latest >= 0) {
+                got.set(latest, got.get(latest) + " " + line.group(2));
+            }
+        }
+        CHECKS.due("the interface says", got.subList(0, Math.min(got.size(), want.size())), want);
+        for (String behind : got.subList(Math.min(got.size(), want.size()), got.size())) {
+            CHECKS.due("no calls behind: " + behind, behind.equals("---- what the calls above share"), true);
+        }
     }
 
     private static String parameters(Executable call) {
@@ -170,6 +201,57 @@ public final class LanguageTest {
         }
         CHECKS.due("rule 11 methods were found", longest > 10, true);
         CHECKS.due("rule 11 longest method of " + longest + " lines", longest <= 60, true);
+    }
+
+    /** Rule 8 and 11, by what javap tells of the compiled class: no way of calls comes back, and none is too deep. */
+    private static void callsNoneOfWhichIsARecursion() {
+        TreeMap<String, TreeSet<String>> calls = new TreeMap<>();
+        for (Class<?> type : all()) {
+            calls.putAll(callsOf(type));
+        }
+        CHECKS.due("rule 11 methods were found", calls.size() > 100, true);
+        int deepest = 0;
+        for (String method : calls.keySet()) {
+            deepest = Math.max(deepest, depth(method, calls, 0));
+        }
+        CHECKS.due("rule 11, " + deepest + " deep", deepest <= 8, true);
+        CHECKS.due("rule 11 calls were found", deepest > 4, true);
+    }
+
+    private static TreeMap<String, TreeSet<String>> callsOf(Class<?> type) {
+        StringWriter told = new StringWriter();
+        PrintWriter out = new PrintWriter(told);
+        String place = System.getProperty("java.class.path");
+        ToolProvider.findFirst("javap").orElseThrow().run(out, out, "-p", "-c", "-cp", place, type.getName());
+        TreeMap<String, TreeSet<String>> calls = new TreeMap<>();
+        String method = "";
+        for (String line : told.toString().split("\n")) {
+            Matcher head = Pattern.compile("^  .*?([\\w$]+)\\(([^)]*)\\).*;$").matcher(line);
+            if (head.find()) {
+                boolean made = head.group(1).equals(type.getName());
+                method = type.getName() + "." + (made ? "\"<init>\"" : head.group(1));
+                CHECKS.due("one of this name: " + method, calls.put(method, new TreeSet<>()) == null, true);
+            }
+            Matcher called = Pattern.compile("// Method (?:([\\w$]+)\\.)?([\\w\"<>]+):").matcher(line);
+            if (called.find()) {
+                calls.get(method).add((called.group(1) == null ? type.getName() : called.group(1)) + "." + called.group(2));
+            }
+        }
+        return calls;
+    }
+
+    /** How many of the program's own methods stand open at once behind this one, itself among them. */
+    private static int depth(String method, TreeMap<String, TreeSet<String>> calls, int above) {
+        if (above > 50) {
+            return above;
+        }
+        int deepest = 0;
+        for (String called : calls.get(method)) {
+            if (calls.containsKey(called)) {
+                deepest = Math.max(deepest, depth(called, calls, above + 1));
+            }
+        }
+        return deepest + 1;
     }
 
     /** All calls of one run live in one room, so the rows are made by the constructor, and no call makes more. */

@@ -19,7 +19,9 @@ public final class ParcelsTest {
 
     private static void oneParcel() {
         CourierClash g = Checks.game(new int[] {2, 9}, new int[] {9, 8});
+        CHECKS.due("33 none", g.parcels(), 0);
         g.addParcel(9, 8, 4, 6);
+        CHECKS.due("33 one", g.parcels(), 1);
         g.order(2, 0);
         CHECKS.due("34 waits", g.isWaiting(0), true);
         CHECKS.refused("36 waits", g, STATE, () -> g.courierOf(0));
@@ -32,6 +34,7 @@ public final class ParcelsTest {
         CHECKS.due("38 none yet", g.pointsOf(1), 0);
         g.order(2, 1);
         g.turn();
+        CHECKS.due("33 delivered ones count still", g.parcels(), 1);
         CHECKS.due("34 delivered", g.isWaiting(0), false);
         CHECKS.due("35 delivered", g.isDelivered(0), true);
         CHECKS.due("36 delivered", g.courierOf(0), 2);

@@ -1,4 +1,4 @@
-/** Promises 1 to 8 and 22 to 28: a new game, streets, couriers, parcels, the limit. */
+/** Promises 1 to 8 and 22 to 30: a new game, streets, couriers, parcels, the limit. */
 public final class SettingsTest {
     private static final Class<IndexOutOfBoundsException> INDEX = IndexOutOfBoundsException.class;
     private static final Class<IllegalArgumentException> ARGUMENT = IllegalArgumentException.class;
