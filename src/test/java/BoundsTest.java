@@ -391,11 +391,12 @@ public final class BoundsTest {
     /** "An object is used for at most 512 calls after it has been made": up to the last of them all is as due. */
     private static void fiveHundredTwelveCalls() {
         CourierClash turned = new CourierClash();
-        for (int call = 1; call < 512; call += 2) {
+        for (int call = 1; call < 511; call += 2) {
             CHECKS.due("11 nobody", turned.turn(), 0);
             CHECKS.due("18 none left", turned.undo(), 0);
         }
         CHECKS.due("40 all undone", turned.turnsPassed(), 0);
+        CHECKS.due("43 all undone", turned.positionsNoted(), 1);
         CourierClash restored = new CourierClash();
         CHECKS.due("19 no turns", restored.keep(), 0);
         for (int call = 2; call < 511; call += 2) {

@@ -9,8 +9,11 @@ import java.util.TreeMap;
 
 /** Random runs of calls, each answered by CourierClash and by PlainClash, which must answer alike. */
 public final class ModelTest {
-    private static final int RUNS = 1500;
+    private static final int RUNS = 5000;
+    /** What an object answers behind as many calls is free. */
     private static final int CALLS = 512;
+    /** As many calls, digests among them, as one step can need. */
+    private static final int STEP = 80;
     private static final Checks CHECKS = new Checks();
     private static final List<Method> FACE = new ArrayList<>();
     private static final TreeMap<String, Method> PLAIN = new TreeMap<>();
@@ -20,9 +23,13 @@ public final class ModelTest {
     private final CourierClash game = new CourierClash();
     private final PlainClash plain = new PlainClash();
     private final StringBuilder told = new StringBuilder();
+    /** The digest is compared behind each so many calls: the fewer digests, the more other calls there can be. */
+    private final int callsADigest;
+    private int calls = 0;
 
     private ModelTest(long seed) {
         random = new Random(seed);
+        callsADigest = random.nextInt(3) == 0 ? 1 : 2 + random.nextInt(20);
     }
 
     public static void main(String[] args) throws ReflectiveOperationException {
@@ -74,26 +81,31 @@ public final class ModelTest {
     }
 
     private boolean run() throws ReflectiveOperationException {
-        int calls = 0;
         boolean onlyStreets = random.nextInt(3) > 0;
         for (int i = 0; onlyStreets && i < 16; i++) {
-            calls++;
             if (!call("addStreet", junction(), junction(), random.nextInt(4) == 0)) {
                 return false;
             }
         }
-        int most = random.nextInt(4) == 0 ? CALLS : CALLS / 4;
-        for (; calls < most; calls++) {
+        int most = random.nextInt(4) > 0 ? CALLS : CALLS / 2;
+        while (calls + STEP <= most) {
             if (!goOn() || !step()) {
                 return false;
             }
         }
-        return true;
+        while (calls + 4 <= most) {
+            if (!anyCall()) {
+                return false;
+            }
+        }
+        boolean right = call("digest");
+        CHECKS.due("calls of one object", calls <= CALLS, true);
+        return right;
     }
 
     /** Games that are over would have little to tell, so most of them are made to go on. */
     private boolean goOn() throws ReflectiveOperationException {
-        int why = game.whyOver();
+        int why = plain.whyOver();
         if (why == 0 || random.nextInt(4) > 0) {
             return true;
         }
@@ -135,6 +147,10 @@ public final class ModelTest {
         if (kind < 68) {
             return call("nextStreet", random.nextInt(4), random.nextInt(10));
         }
+        return anyCall();
+    }
+
+    private boolean anyCall() throws ReflectiveOperationException {
         Method method = FACE.get(random.nextInt(FACE.size()));
         boolean rare = List.of("place", "undo", "restore", "clearBuffer", "setLimit").contains(method.getName());
         return rare && random.nextInt(3) > 0 || call(method.getName(), arguments(method));
@@ -167,8 +183,8 @@ public final class ModelTest {
 
     private boolean goodOrder(int courier) throws ReflectiveOperationException {
         List<Integer> streets = new ArrayList<>();
-        for (int s = 0; s < game.streets(); s++) {
-            if (game.fromOf(s) == game.junctionOf(courier)) {
+        for (int s = 0; s < plain.streets(); s++) {
+            if (plain.fromOf(s) == plain.junctionOf(courier)) {
                 streets.add(s);
             }
         }
@@ -183,9 +199,9 @@ public final class ModelTest {
         StringBuilder text = new StringBuilder();
         for (int parts = random.nextInt(6); parts >= 0; parts--) {
             int courier = random.nextInt(4);
-            int street = random.nextInt(Math.max(1, game.streets()) + (random.nextInt(5) == 0 ? 9 : 0));
-            for (int s = 0; s < game.streets(); s++) {
-                street = random.nextInt(3) == 0 && game.fromOf(s) == game.junctionOf(courier) ? s : street;
+            int street = random.nextInt(Math.max(1, plain.streets()) + (random.nextInt(5) == 0 ? 9 : 0));
+            for (int s = 0; s < plain.streets(); s++) {
+                street = random.nextInt(3) == 0 && plain.fromOf(s) == plain.junctionOf(courier) ? s : street;
             }
             String[] kinds = {"o" + courier + ">" + street, "s" + courier, "t" + street, "r", "r"};
             text.append(kinds[random.nextInt(2) == 0 ? 0 : random.nextInt(5)]).append(parts > 0 ? ";" : "");
@@ -222,8 +238,10 @@ public final class ModelTest {
         Object got = answer(method, game, arguments);
         told.append(name).append(Arrays.toString(arguments)).append(" -> ").append(got).append('\n');
         MET.merge(name + "=" + got, 1, Integer::sum);
-        long gotDigest = game.digest();
-        long wantDigest = plain.digest();
+        calls++;
+        long wantDigest = calls % callsADigest == 0 ? plain.digest() : 0;
+        long gotDigest = calls % callsADigest == 0 ? game.digest() : 0;
+        calls += calls % callsADigest == 0 ? 1 : 0;
         if (want.equals(got) && gotDigest == wantDigest) {
             return true;
         }

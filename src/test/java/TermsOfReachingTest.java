@@ -18,6 +18,7 @@ public final class TermsOfReachingTest {
         shortestWay();
         ofSeveralTheGreatestValue();
         ofSeveralTheLowestNumber();
+        eachNumber();
         CHECKS.end("TermsOfReachingTest");
     }
 
@@ -259,5 +260,28 @@ public final class TermsOfReachingTest {
         g.turn();
         CHECKS.due("49 the lowest that waits", g.bestParcel(0), 0);
         CHECKS.due("49 lighter ones were picked up", g.courierOf(4), 3);
+    }
+
+    /** Each of eight parcels can be the best one, by its way, its value, or for it alone suits; for each courier. */
+    private static void eachNumber() {
+        for (int pair = 0; pair < 32; pair++) {
+            int c = pair / 8;
+            int best = pair % 8;
+            CourierClash way = Checks.town(c + "5 56 67");
+            CourierClash value = Checks.town(c + "5 56");
+            CourierClash weight = Checks.town(c + "5 56");
+            CourierClash reached = Checks.town(c + "5 56");
+            weight.setCapacity(3);
+            for (int p = 0; p < 8; p++) {
+                way.addParcel(5, p == best ? 6 : 7, 1, p == best ? 1 : 9);
+                value.addParcel(5, 6, 1, p == best ? 7 : 6);
+                weight.addParcel(5, 6, p == best ? 3 : 4, 5);
+                reached.addParcel(5, p == best ? 6 : 7, 1, 5);
+            }
+            CHECKS.due("49 by its way", way.bestParcel(c), best);
+            CHECKS.due("49 by its value", value.bestParcel(c), best);
+            CHECKS.due("49 by its weight", weight.bestParcel(c), best);
+            CHECKS.due("49 by its target", reached.bestParcel(c), best);
+        }
     }
 }

@@ -18,6 +18,7 @@ public final class TermsOfTextsTest {
         noLeadingZero();
         theFirstErrorOnly();
         ofAnyLength();
+        noGameBehindAnError();
         allShortTexts();
         upToTheFirstThatThrows();
         theLatestStop();
@@ -99,6 +100,11 @@ public final class TermsOfTextsTest {
                 CHECKS.due("30 order", g.orderOf(c), s);
                 CHECKS.due("16 order", g.hasStopped(), false);
             }
+        }
+        for (int c = 0; c < 4; c++) {
+            CourierClash few = Checks.town(c + "9");
+            CHECKS.due("15 fewer streets than couriers", Checks.played(few, "o" + c + ">0"), 1);
+            CHECKS.due("30 the only street", few.orderOf(c), 0);
         }
         for (String text : new String[] {"o", "o0", "o0>", "o4>0", "o0>24", "o0>-1", "o>0", "o0>0>0", "00>0"}) {
             notComplete(text);
@@ -203,6 +209,20 @@ public final class TermsOfTextsTest {
         error(almost + "r;;", 59);
         error(almost + "o0;", 59);
         error(almost + "t24", 59);
+    }
+
+    /** Whatever stands behind an error, what is read there is no game any more. */
+    private static void noGameBehindAnError() {
+        String[] errors = {"x", "xx", "xxx", "0", ">", ";", "o4", "o0-", "o0>x", "s4", "t24", "t00", "rr", "r;;", "r;x"};
+        String[] ends = {"r", "s0", "t0", "o0>0", "0>0", ">0", "0", "1", ";r", ";s0", ";t1", ";o0>1"};
+        for (String begin : errors) {
+            for (String end : ends) {
+                notComplete(begin + end);
+                CourierClash g = Checks.town("01 12");
+                Checks.type(g, begin + end);
+                CHECKS.due("14 before its end " + begin + end, g.firstError() < begin.length(), true);
+            }
+        }
     }
 
     /** All texts of up to four of these characters, read and played beside the plain program. */

@@ -71,22 +71,29 @@ public final class TermsOfTurnsTest {
         other.order(0, 0);
         CHECKS.due("another order", other.order(0, 1), 8);
         CHECKS.due("the other one now", other.orderOf(0), 1);
-        orderGoes("taken back", g -> g.takeBack(0));
-        orderGoes("the street is closed", g -> g.toggleStreet(0));
-        orderGoes("the courier is placed", g -> g.place(0, 5));
-        orderGoes("it is placed where it is", g -> g.place(0, 0));
-        orderGoes("it gets a van", g -> g.toggleVan(0));
-        orderGoes("taken back by a text", g -> Checks.played(g, "s0"));
-        orderGoes("closed by a text", g -> Checks.played(g, "t0"));
+        for (int c = 0; c < 4; c++) {
+            int courier = c;
+            orderGoes("taken back", c, g -> g.takeBack(courier));
+            orderGoes("the street is closed", c, g -> g.toggleStreet(courier));
+            orderGoes("the courier is placed", c, g -> g.place(courier, 5));
+            orderGoes("it is placed where it is", c, g -> g.place(courier, courier));
+            orderGoes("it gets a van", c, g -> g.toggleVan(courier));
+            orderGoes("taken back by a text", c, g -> Checks.played(g, "s" + courier));
+            orderGoes("closed by a text", c, g -> Checks.played(g, "t" + courier));
+        }
     }
 
-    private static void orderGoes(String what, Consumer<CourierClash> call) {
-        CourierClash g = Checks.town("09n 19");
-        Checks.orders(g, 0, 1);
+    private static void orderGoes(String what, int courier, Consumer<CourierClash> call) {
+        CourierClash g = Checks.town("09n 19n 29n 39n");
+        Checks.orders(g, 0, 1, 2, 3);
         call.accept(g);
-        CHECKS.due(what, g.hasOrder(0), false);
-        CHECKS.refused(what + ", no street", g, STATE, () -> g.orderOf(0));
-        CHECKS.due(what + ", the other courier's stays", g.orderOf(1), 1);
+        CHECKS.refused(what + ", no street", g, STATE, () -> g.orderOf(courier));
+        for (int c = 0; c < 4; c++) {
+            CHECKS.due(what + ", its own alone, " + courier, g.hasOrder(c), c != courier);
+            if (c != courier) {
+                CHECKS.due(what + ", the others' stay", g.orderOf(c), c);
+            }
+        }
     }
 
     private static void whenAnOrderStays() {
@@ -320,6 +327,29 @@ public final class TermsOfTurnsTest {
     private static void ofSeveralTheLightest() {
         takes("the first is lighter", new int[] {3, 4}, new int[] {4, 4}, 0);
         takes("the second is lighter", new int[] {4, 4}, new int[] {3, 4}, 1);
+        int[][] orders = {{2, 3, 4}, {2, 4, 3}, {3, 2, 4}, {3, 4, 2}, {4, 2, 3}, {4, 3, 2}};
+        for (int ahead = 0; ahead <= 5; ahead++) {
+            for (int[] weights : orders) {
+                lightest(ahead, weights);
+            }
+        }
+    }
+
+    /** Three parcels alike but for their weights, with some ahead of them that wait elsewhere; one alone fits. */
+    private static void lightest(int ahead, int[] weights) {
+        CourierClash g = Checks.town("");
+        g.setCapacity(4);
+        for (int p = 0; p < ahead; p++) {
+            g.addParcel(8, 9, 1 + p, 9);
+        }
+        for (int weight : weights) {
+            g.addParcel(2, 9, weight, 4);
+        }
+        g.turn();
+        for (int i = 0; i < 3; i++) {
+            CHECKS.due("the lightest of three, " + weights[i], g.isWaiting(ahead + i), weights[i] != 2);
+        }
+        CHECKS.due("nothing else", g.loadOf(2), 2);
     }
 
     private static void ofSeveralTheLowestNumber() {

@@ -14,6 +14,9 @@ public final class UndoTest {
         snapshotAndNotes();
         undoOfRestore();
         otherStreetsAndParcels();
+        allStreetsBack();
+        allParcelsBack();
+        allCouriersBack();
         undoOfTurns();
         sixtyTurnsWithoutDrop();
         CHECKS.end("UndoTest");
@@ -191,6 +194,142 @@ public final class UndoTest {
         CHECKS.due("20 target and value", g.pointsOf(1), 2);
     }
 
+    private static void undoAll(CourierClash g) {
+        while (g.savedStates() > 0) {
+            g.undo();
+        }
+    }
+
+    /** The last five of 24 streets are others for a while, and yet restore and undo bring each of them back. */
+    private static void allStreetsBack() {
+        for (int from = 0; from <= 19; from += 19) {
+            for (int s = 0; s < 24; s++) {
+                boolean other = from == 19 && s >= 19;
+                CourierClash g = otherStreets(from == 19);
+                int begin = other ? s - 19 : Checks.fullTownFrom(s);
+                CHECKS.due("18 and 20 from of " + s, g.fromOf(s), begin);
+                CHECKS.due("18 and 20 to of " + s, g.toOf(s), other ? s - 14 : Checks.fullTownTo(s));
+                CHECKS.due("18 and 20 open " + s, g.isOpen(s), true);
+                Checks.answer(() -> g.place(0, begin));
+                int courier = g.junctionOf(0) == begin ? 0 : begin;
+                CHECKS.due("18 and 20 can be taken " + s, g.whyNoOrder(courier, s), 0);
+                g.toggleVan(courier);
+                CHECKS.due("18 and 20 narrow " + s, g.whyNoOrder(courier, s), (s % 2 == 1) == other ? 0 : 4);
+            }
+        }
+    }
+
+    /** A snapshot of 24 streets is restored where there are five others, and if so told, those are brought back. */
+    private static CourierClash otherStreets(boolean undone) {
+        CourierClash g = Checks.fullTown();
+        g.keep();
+        undoAll(g);
+        CHECKS.due("18 five less", g.streets(), 19);
+        for (int s = 19; s < 24; s++) {
+            g.addStreet(s - 19, s - 14, s % 2 == 0);
+        }
+        g.restore();
+        if (undone) {
+            g.undo();
+        }
+        return g;
+    }
+
+    private static void allParcelsBack() {
+        for (int p = 0; p < 8; p++) {
+            CourierClash restored = otherParcels(false);
+            parcelIs(restored, p, 5 + p % 5, p < 5 ? 0 : 4, 1 + p % 5, 1 + p);
+            CourierClash undone = otherParcels(true);
+            if (p < 3) {
+                parcelIs(undone, p, 5 + p % 5, 0, 1 + p % 5, 1 + p);
+            } else {
+                parcelIs(undone, p, 9 - p % 5, 4, 5 - p % 5, 9 - p);
+            }
+        }
+    }
+
+    /** As with the streets, for the last five of eight parcels. */
+    private static CourierClash otherParcels(boolean undone) {
+        CourierClash g = new CourierClash();
+        g.setCapacity(9);
+        g.toggleVan(0);
+        for (int p = 0; p < 8; p++) {
+            g.addParcel(5 + p % 5, p < 5 ? 0 : 4, 1 + p % 5, 1 + p);
+        }
+        g.keep();
+        undoAll(g);
+        CHECKS.due("18 five less", g.parcels(), 3);
+        for (int p = 3; p < 8; p++) {
+            g.addParcel(9 - p % 5, 4, 5 - p % 5, 9 - p);
+        }
+        g.restore();
+        if (undone) {
+            g.undo();
+        }
+        return g;
+    }
+
+    /** The courier 0 picks the parcel up, with others that wait there, and delivers it alone. */
+    private static void parcelIs(CourierClash g, int parcel, int spot, int target, int weight, int value) {
+        CHECKS.due("18 and 20 place of " + parcel, g.placeOf(parcel), spot);
+        g.place(0, spot);
+        g.turn();
+        CHECKS.due("18 and 20 picked up " + parcel, g.courierOf(parcel), 0);
+        int load = g.loadOf(0);
+        g.place(0, target);
+        g.turn();
+        CHECKS.due("18 and 20 target of " + parcel, g.isDelivered(parcel), true);
+        CHECKS.due("18 and 20 weight of " + parcel, load - g.loadOf(0), weight);
+        CHECKS.due("18 and 20 value of " + parcel, g.pointsOf(0), value);
+    }
+
+    /** What a turn, a van and a place change of each courier is brought back for each. */
+    private static void allCouriersBack() {
+        for (int c = 0; c < 4; c++) {
+            CourierClash g = Checks.town("09 19 29 39 98");
+            g.toggleVan(c);
+            g.order(c, c);
+            g.turn();
+            courierIs("18 moved", g, c, 9, 1, 0);
+            g.order(c, 4);
+            g.turn();
+            g.place(c, c);
+            g.toggleVan(c);
+            g.turn();
+            courierIs("18 further", g, c, c, 2, 1);
+            CHECKS.due("18 no van", g.hasVan(c), false);
+            g.undo();
+            g.undo();
+            CHECKS.due("18 a van", g.hasVan(c), true);
+            g.undo();
+            courierIs("18 placed back", g, c, 8, 2, 0);
+            g.undo();
+            courierIs("18 moved, undone", g, c, 9, 1, 0);
+            CHECKS.due("18 its order", g.orderOf(c), 4);
+            CHECKS.due("18 a van still", g.hasVan(c), true);
+            g.keep();
+            g.turn();
+            g.turn();
+            courierIs("18 on", g, c, 8, 2, 1);
+            g.restore();
+            courierIs("20 moved, restored", g, c, 9, 1, 0);
+            CHECKS.due("20 its order", g.orderOf(c), 4);
+        }
+    }
+
+    private static void courierIs(String what, CourierClash g, int courier, int junction, int moves, int outcome) {
+        CHECKS.due(what + ", at", g.junctionOf(courier), junction);
+        CHECKS.due(what + ", moves", g.movesOf(courier), moves);
+        CHECKS.due(what + ", outcome", g.outcomeOf(courier), outcome);
+        for (int c = 0; c < 4; c++) {
+            if (c != courier) {
+                CHECKS.due(what + ", others at", g.junctionOf(c), c);
+                CHECKS.due(what + ", others' moves", g.movesOf(c), 0);
+                CHECKS.due(what + ", others' outcome", g.outcomeOf(c), 1);
+            }
+        }
+    }
+
     private static void undoOfTurns() {
         CourierClash g = Checks.game(new int[] {0, 1}, new int[] {2, 9});
         g.addParcel(2, 9, 4, 6);
@@ -224,10 +363,12 @@ public final class UndoTest {
             g.addStreet(j, (j + 1) % 10, false);
         }
         g.setLimit(60);
+        int[] at = {0, 1, 2, 3};
         // the couriers go round one behind the other; each tenth turn the first one alone goes on
         for (int turn = 0; turn < 60; turn++) {
             for (int c = 3; c >= (turn % 10 == 9 ? 3 : 0); c--) {
-                g.order(c, g.junctionOf(c));
+                g.order(c, at[c]);
+                at[c] = (at[c] + 1) % 10;
             }
             g.turn();
         }
